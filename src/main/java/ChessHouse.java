@@ -722,7 +722,8 @@ public final class ChessHouse {
 
     /** The words of one line of the tape. */
     private static final class Words {
-        static final int NOT = Integer.MIN_VALUE;
+        /** No number that is read: all have nine digits at most. */
+        static final int NOT = -1000000000;
 
         final int[] begin = new int[8];
         int count;
@@ -2640,12 +2641,16 @@ public final class ChessHouse {
         /** What refutes a move in a problem in n moves: SOLVED if it is a key, NOTHING, or a move. */
         private int refuter(int move, int n, int at) {
             long made = board.make(move);
-            boolean all = self || n > 1 || n == asked;
-            int stop = board.legal(list, at, all ? Board.MOST : 1);
-            int told = SOLVED;
-            if (stop == at) {
-                told = !self && board.inCheck() == mate ? SOLVED : NOTHING;
-            } else if (n == asked) {
+            int stop = at;
+            int told;
+            if (self || n > 1 || n == asked) {
+                stop = board.legal(list, at, Board.MOST);
+                told = stop > at || !self && board.inCheck() == mate ? SOLVED : NOTHING;
+            } else {
+                // Inside of a problem it is all the same what refutes a last move.
+                told = isBeaten(at) ? SOLVED : NOTHING;
+            }
+            if (n == asked) {
                 board.sort(list, at, stop);
             }
             for (int i = at; i < stop && told == SOLVED; i++) {
@@ -2662,11 +2667,11 @@ public final class ChessHouse {
 
         /** Whether the first side, which is to move, is beaten in a self problem, or has a key in n moves. */
         private boolean isSolvable(int n, int at) {
-            int stop = board.legal(list, at, n > 0 ? Board.MOST : 1);
-            if (stop == at) {
-                return self && board.inCheck() == mate;
+            if (self && isBeaten(at)) {
+                return true;
             }
-            for (int i = at; i < stop && n > 0; i++) {
+            int stop = n > 0 ? board.legal(list, at, Board.MOST) : at;
+            for (int i = at; i < stop; i++) {
                 if (refuter(list[i], n, stop) == SOLVED) {
                     return true;
                 }
@@ -2674,16 +2679,22 @@ public final class ChessHouse {
             return false;
         }
 
+        /** Whether the side to move is beaten; the list is free from a place on. */
+        private boolean isBeaten(int at) {
+            // Most positions fail at the check already, which is sooner looked at than moves.
+            return board.inCheck() == mate && board.legal(list, at, 1) == at;
+        }
+
         /** Goes through all help lines with so many moves left, in order, up to the one that is wanted. */
         private void help(int left, int at) {
-            int stop = board.legal(list, at, left > 0 ? Board.MOST : 1);
             if (left <= 0) {
-                if (stop == at && board.inCheck() == mate) {
+                if (isBeaten(at)) {
                     found = lines == wanted;
                     lines++;
                 }
                 return;
             }
+            int stop = board.legal(list, at, Board.MOST);
             board.sort(list, at, stop);
             for (int i = at; i < stop && !found; i++) {
                 int move = list[i];
