@@ -37,26 +37,21 @@ public final class LimitTest {
                 "? 6 8 1200\n= rnbqkbnr/pppppppp/8/8/4P3/8/PPPP1PPP/RNBQKBNR b KQkq - 0 1\n= 7\n1. e4 *\n");
     }
 
-    /** The longest game that can be written: its length is told whole, though OUT can't hold it. */
+    /** As much as the tape can bring within 512 calls: 300 moves, most of them with all that they may have. */
     private static void longest() {
         House house = new House();
-        String remark = "x".repeat(200);
-        StringBuilder text = new StringBuilder("set rn2k2r/8/8/8/8/8/8/RN2K2R w KQkq - 0 999\n");
-        for (int i = 0; i < 75; i++) {
-            for (String move : new String[] {"Nc3", "Nc6", "Nb1", "Nb8"}) {
-                text.append("play ").append(move).append("\nmark 255\nmark 255\nmark 255\nmark 255\nsay ")
-                        .append(remark).append('\n');
-            }
-            house.ask(text.toString());
-            text.setLength(0);
+        StringBuilder text = new StringBuilder("game\n[FEN \"rn2k2r/8/8/8/8/8/8/RN2K2R w KQkq - 0 999\"]");
+        StringBuilder due = new StringBuilder("[FEN \"rn2k2r/8/8/8/8/8/8/RN2K2R w KQkq - 0 999\"]\n\n");
+        for (int i = 0; i < 300; i++) {
+            String move = new String[] {"Nc3", "Nc6", "Nb1", "Nb8"}[i % 4];
+            text.append(move).append("$0$255$7{").append(i % 10).append("}");
+            due.append(999 + i / 2).append(i % 2 == 0 ? ". " : "... ").append(move).append(" $0 $255 $7 {")
+                    .append(i % 10).append("} ");
         }
-        int tag = "[FEN \"rn2k2r/8/8/8/8/8/8/RN2K2R w KQkq - 0 999\"]\n\n".length();
-        int numbers = ("999. 999... ".length()) + 149 * "1000. 1000... ".length();
-        int each = "Nc3 ".length() + 4 * "$255 ".length() + "{} ".length() + 200;
-        int due = tag + numbers + 300 * each + 1;
-        String out = house.ask("write\n");
-        CHECKS.same("its length", out.substring(0, out.indexOf('\n')), "= " + due);
-        CHECKS.same("as much of it as fits", out.length(), 65536);
-        CHECKS.same("HERE stays", house.ask("back 0\n"), "= 300\n");
+        CHECKS.same("its nodes", house.ask(text + "*\n"), "= 300\n");
+        due.append("*");
+        CHECKS.same("as it is written", house.look("write\n"), "= " + due.length() + "\n" + due + "\n");
+        CHECKS.same("the last node of all", house.look("go 300\nfen\nback 300\n"),
+                "= 300\n= rn2k2r/8/8/8/8/8/8/RN2K2R w KQkq - 300 999\n= 0\n");
     }
 }

@@ -1,5 +1,7 @@
 import java.util.ArrayList;
+import java.util.HashMap;
 import java.util.List;
+import java.util.Map;
 
 /**
  * Promise 3, values: a plain look at all moves, which knows the house only by its commands moves, fen, state and sight,
@@ -20,6 +22,8 @@ public final class LookTest {
         "set 8/8/8/2b5/3k4/2P5/8/K7 b - - 0 1",
         "set k7/2Q5/8/8/8/8/1q6/3K4 b - - 0 1",
         "set n1n5/PPPk4/8/8/8/8/4Kppp/5N1N b - - 0 1",
+        "set 3r2k1/3r4/2n5/3p4/8/2N5/3R4/3R2K1 w - - 0 1",
+        "set 3r2k1/3r4/2p5/3p4/8/2N5/3R4/3R2K1 w - - 0 1",
     };
 
     private static final String[] SMALL = {
@@ -28,14 +32,14 @@ public final class LookTest {
         "set 8/8/8/8/8/1k6/1p6/1K5R w - - 97 70",
     };
 
-    /** One object for all: each start is a new game. */
-    private static final House HOUSE = new House();
+    /** What was seen already, by the lines that lead there. */
+    private static final Map<String, View> SEEN = new HashMap<>();
     private static String start;
 
     public static void main(String[] args) {
         for (String each : STARTS) {
             start = each;
-            CHECKS.same(start, HOUSE.ask(start + "\n").charAt(0), '=');
+            CHECKS.same(start, new House().ask(start + "\n").charAt(0), '=');
             look(1, false);
             look(1, true);
             look(2, false);
@@ -70,14 +74,14 @@ public final class LookTest {
             path = with(path, move);
         }
         String asked = "think " + deep + (calm ? " calm" : "");
-        String answer = HOUSE.ask(start + "\n" + asked + "\n");
+        String answer = new House().ask(start + "\n" + asked + "\n");
         CHECKS.same(start + ": " + asked, lastLine(answer), values + line);
     }
 
     private static void test(List<String> path, String move, int deep, int value) {
         String asked = start + "\ntest " + move + " " + deep + " " + value + "\ntest " + move + " " + deep + " "
                 + (value + 1) + "\n";
-        String[] answers = HOUSE.ask(asked).split("\n");
+        String[] answers = new House().ask(asked).split("\n");
         CHECKS.same(asked, answers[answers.length - 2] + answers[answers.length - 1], "= 1= 0");
     }
 
@@ -131,7 +135,13 @@ public final class LookTest {
 
     private static View view(List<String> path) {
         String played = path.isEmpty() ? "" : "play " + String.join(" ", path) + "\n";
-        String[] lines = HOUSE.ask(start + "\n" + played + "moves\nfen\nstate\nsight\n").split("\n");
+        return SEEN.computeIfAbsent(start + "\n" + played, LookTest::viewBehind);
+    }
+
+    private static View viewBehind(String talk) {
+        House house = new House();
+        house.ask(talk);
+        String[] lines = house.ask("moves\nfen\nstate\nsight\n").split("\n");
         int last = lines.length - 1;
         View view = new View();
         String[] moves = lines[last - 3].split(" ");
