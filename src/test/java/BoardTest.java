@@ -275,15 +275,31 @@ public final class BoardTest {
                     behind[24 + file] = 'P';
                     boolean beside = rank == 3 && Math.abs(other - file) == 1;
                     String move = name(24 + file);
-                    talks.add("set " + fen + "\nplay " + move + "\nfen\n", "=\n= 1\n= "
-                            + fen(behind, "b - " + (beside ? name(16 + file) : "-") + " 0 9") + "\n");
-                    talks.add("set " + turned(fen) + "\nplay " + turnedSquare(move) + "\nfen\n", "=\n= 1\n= "
-                            + turned(fen(behind, "b - " + (beside ? name(16 + file) : "-") + " 0 9"))
-                            .replaceAll("9$", "10") + "\n");
+                    String due = fen(behind, "b - " + (beside ? name(16 + file) : "-") + " 0 9");
+                    pass(talks, fen, move, "Kf8", due);
+                    pass(talks, turned(fen), turnedSquare(move), "Kf1", turned(due).replaceAll("9$", "10"));
+                    String told = fen(behind, "b - " + name(16 + file) + " 0 9");
+                    setPassed(talks, told, "Kf8", beside);
+                    setPassed(talks, turned(told), "Kf1", beside);
                 }
             }
         }
         talks.finish();
+    }
+
+    /** Plays a pawn's two steps and another move behind it, which is taken back: the passed square is there again. */
+    private static void pass(Talks talks, String fen, String move, String next, String due) {
+        talks.add("set " + fen + "\nplay " + move + "\nfen\nplay " + next + "\nback 1\nfen\n",
+                "=\n= 1\n= " + due + "\n= 2\n= 1\n= " + due + "\n");
+    }
+
+    /** A position that is set with a passed square has it again when a move is taken back. */
+    private static void setPassed(Talks talks, String fen, String move, boolean legal) {
+        if (legal) {
+            talks.add("set " + fen + "\nplay " + move + "\nback 1\nfen\n", "=\n= 1\n= 0\n= " + fen + "\n");
+        } else {
+            talks.add("set " + fen + "\n", "? 7 6\n");
+        }
     }
 
     /** The text of a position with ranks and sides exchanged. */
@@ -311,12 +327,16 @@ public final class BoardTest {
 
     /** Short and long castling of a side, each tried from the same position. */
     private static void tryCastling(String fen, boolean shortOne, boolean longOne) {
+        castle(fen, "O-O", shortOne);
+        castle(fen, "O-O-O", longOne);
+    }
+
+    /** Castles, if it may be, and takes it back. */
+    private static void castle(String fen, String sign, boolean legal) {
         House house = new House();
         CHECKS.same(fen, house.ask("set " + fen + "\n"), "=\n");
-        CHECKS.same(fen + ": short", house.look("play O-O\n"), played(shortOne));
-        House again = new House();
-        again.ask("set " + fen + "\n");
-        CHECKS.same(fen + ": long", again.look("play O-O-O\n"), played(longOne));
+        CHECKS.same(fen + ": " + sign, house.ask("play " + sign + "\n"), played(legal));
+        CHECKS.same(fen + ": behind " + sign, house.ask("go 0\nfen\n"), "= 0\n= " + fen + "\n");
     }
 
     private static void castlingRights() {
