@@ -2216,7 +2216,7 @@ public final class ChessHouse {
                     mark = mark * 10 + text[at] - '0';
                     at++;
                 }
-                if (at - first == 1 || isDigit(current())) {
+                if (at - first == 1) {
                     fail(1, at);
                 }
             } else if (text[at] != '$' && stage == SIGNS) {
@@ -2233,6 +2233,10 @@ public final class ChessHouse {
             }
             if (fault == 0 && (mark > 255 || !game.addMark(mark))) {
                 fail(8, first);
+            }
+            // Three digits are all of a mark, which is looked at before a fourth one behind it.
+            if (text[first] == '$' && isDigit(current())) {
+                fail(1, at);
             }
             stage = MARKS;
         }
@@ -2317,16 +2321,13 @@ public final class ChessHouse {
             }
         }
 
+        /** Four digits are all of a number, which is looked at before a fifth one: where a letter must stand. */
         private void readNumber() {
             int first = at;
             int number = 0;
             while (at < stop && at - first < 4 && isDigit(text[at])) {
                 number = number * 10 + text[at] - '0';
                 at++;
-            }
-            if (isDigit(current())) {
-                fail(1, at);
-                return;
             }
             while (at < stop && text[at] == '.') {
                 at++;
